@@ -1188,7 +1188,8 @@ public final class FilesOpened {
             return (1L << personCount) - 1;
         }
 
-        private long elsewhere(Paper report, int day) {
+        /** Of whom the report tells, and who was seen on the day of the deed, but not where it was done. */
+        private long ruledOut(Paper report, int day) {
             long somewhere = 0;
             long there = 0;
             for (int i = 0; i < seenCount; i++) {
@@ -1201,11 +1202,7 @@ public final class FilesOpened {
                     }
                 }
             }
-            return somewhere & ~there;
-        }
-
-        private long ruledOut(Paper report, int day) {
-            return elsewhere(report, day) | 1L << report.person;
+            return somewhere & ~there | 1L << report.person;
         }
 
         int outBy(int cover, int person, int day) {
@@ -1349,8 +1346,8 @@ public final class FilesOpened {
         int length;
         private final int[] bytes = new int[MOST_BYTES];
         private int tokenCount;
-        private final int[] tokens = new int[MOST_BYTES + 1];
-        private final int[] places = new int[MOST_BYTES + 1];
+        final int[] tokens = new int[MOST_BYTES + 1];
+        final int[] places = new int[MOST_BYTES + 1];
 
         boolean hasRoom() {
             return length + 20 <= MOST_BYTES;
@@ -1361,14 +1358,6 @@ public final class FilesOpened {
                 bytes[length] = four >>> shift & 255;
                 length++;
             }
-        }
-
-        int tokenAt(int i) {
-            return within(i, 0, tokenCount - 1) ? tokens[i] : END;
-        }
-
-        int placeAt(int i) {
-            return within(i, 0, tokenCount - 1) ? places[i] : 0;
         }
 
         void scan() {
@@ -1482,7 +1471,8 @@ public final class FilesOpened {
 
     /** Reads the tokens of a tape as a law, up to its first fault; values come ahead of what joins them. */
     private static final class LawReader {
-        private final Tape tape;
+        private final int[] tokens;
+        private final int[] places;
         private int at;
         private int fault;
         private int counted;
@@ -1494,7 +1484,8 @@ public final class FilesOpened {
         final int[] code = new int[MOST_BYTES];
 
         LawReader(Tape tape) {
-            this.tape = tape;
+            tokens = tape.tokens;
+            places = tape.places;
         }
 
         /** The fault of the text, 0 if it is a law. */
@@ -1505,31 +1496,33 @@ public final class FilesOpened {
             clauseCount = 0;
             codeSize = 0;
             readClause();
-            for (int i = 0; i < MOST_BYTES && fault == 0 && tape.tokenAt(at) != END; i++) {
-                expect(SEMICOLON);
-                readClause();
+            for (int i = 0; i < MOST_BYTES && fault == 0 && token() != END; i++) {
+                if (accept(SEMICOLON)) {
+                    readClause();
+                } else {
+                    refuse(FAULT_PLACE);
+                }
             }
             return fault;
         }
 
+        private int token() {
+            return at < tokens.length ? tokens[at] : END;
+        }
+
+        /** Only the first fault counts, and it lies where the reading stands. */
         private void refuse(int kind) {
-            if (fault == 0) {
-                fault = 1 + 8 * tape.placeAt(at) + kind;
+            if (fault == 0 && at < places.length) {
+                fault = 1 + 8 * places[at] + kind;
             }
         }
 
         private boolean accept(int token) {
-            if (fault != 0 || tape.tokenAt(at) != token) {
+            if (fault != 0 || at >= tokens.length || tokens[at] != token) {
                 return false;
             }
             at++;
             return true;
-        }
-
-        private void expect(int token) {
-            if (!accept(token)) {
-                refuse(FAULT_PLACE);
-            }
         }
 
         private void emit(int token) {
@@ -1539,37 +1532,26 @@ public final class FilesOpened {
             }
         }
 
-        /** Counts a value or a sign at the place where the reading stands. */
-        private void countOne() {
-            counted++;
-            if (counted > MOST_VALUES) {
-                refuse(FAULT_MANY);
-            }
-        }
-
         private void readClause() {
-            int kind = tape.tokenAt(at);
-            if (fault != 0 || (kind != READ && kind != NEED && kind != TURN)) {
+            int kind = token();
+            if (kind != READ && kind != NEED && kind != TURN) {
                 refuse(FAULT_PLACE);
-                return;
-            }
-            if (clauseCount >= MOST_CLAUSES) {
+            } else if (clauseCount >= MOST_CLAUSES) {
                 refuse(FAULT_CLAUSE);
-                return;
-            }
-            at++;
-            int number = 0;
-            if (kind == TURN) {
-                readSum(0);
             } else {
-                number = kind == READ ? readVerb() : readNeed();
-                expect(IF);
-                readTest(0);
+                at++;
+                kinds[clauseCount] = kind;
+                numbers[clauseCount] = kind == READ ? readVerb() : kind == NEED ? readNeed() : 0;
+                if (kind == TURN) {
+                    readSum(0);
+                } else if (accept(IF)) {
+                    readTest(0);
+                } else {
+                    refuse(FAULT_PLACE);
+                }
+                ends[clauseCount] = codeSize;
+                clauseCount++;
             }
-            kinds[clauseCount] = kind;
-            numbers[clauseCount] = number;
-            ends[clauseCount] = codeSize;
-            clauseCount++;
         }
 
         private int readVerb() {
@@ -1583,7 +1565,7 @@ public final class FilesOpened {
         }
 
         private int readNeed() {
-            int number = tape.tokenAt(at);
+            int number = token();
             if (number > TOO_LONG) {
                 refuse(FAULT_PLACE);
             } else if (number > MOST_NEED) {
@@ -1611,35 +1593,32 @@ public final class FilesOpened {
         }
 
         private void readFact(int depth) {
-            int token = tape.tokenAt(at);
-            if (fault != 0) {
-                return;
-            }
-            if (token != NOT && token != TEST_OPENED) {
-                readComparison(depth);
-            } else if (depth >= MOST_DEEP) {
+            int first = token();
+            if ((first == NOT || first == TEST_OPENED) && depth >= MOST_DEEP) {
                 refuse(FAULT_DEEP);
             } else if (accept(NOT)) {
                 readFact(depth + 1);
                 emit(NOT);
-            } else {
-                at++;
+            } else if (accept(TEST_OPENED)) {
                 readTest(depth + 1);
-                expect(TEST_CLOSED);
+                if (!accept(TEST_CLOSED)) {
+                    refuse(FAULT_PLACE);
+                }
+            } else {
+                readSum(depth);
+                int sign = token();
+                if (sign < LESS || sign > MORE) {
+                    refuse(FAULT_PLACE);
+                    return;
+                }
+                counted++;
+                if (counted > MOST_VALUES) {
+                    refuse(FAULT_MANY);
+                }
+                at++;
+                readSum(depth);
+                emit(sign);
             }
-        }
-
-        private void readComparison(int depth) {
-            readSum(depth);
-            int sign = tape.tokenAt(at);
-            if (!within(sign, LESS, MORE)) {
-                refuse(FAULT_PLACE);
-                return;
-            }
-            countOne();
-            at++;
-            readSum(depth);
-            emit(sign);
         }
 
         private void readSum(int depth) {
@@ -1653,7 +1632,7 @@ public final class FilesOpened {
                 if (joint != NONE) {
                     emit(joint);
                 }
-                joint = tape.tokenAt(at);
+                joint = token();
                 if (joint != PLUS && joint != MINUS) {
                     return;
                 }
@@ -1662,32 +1641,29 @@ public final class FilesOpened {
         }
 
         private void readValue(int depth) {
-            int token = tape.tokenAt(at);
-            if (fault != 0) {
+            int first = token();
+            boolean plain = first < TOO_LONG || (first >= FIRST_WORD && first < FIRST_WORD + VALUE_WORDS);
+            if (!plain && first != OPENED) {
+                refuse(first == TOO_LONG ? FAULT_NUMBER : FAULT_PLACE);
                 return;
             }
-            if (token == OPENED) {
-                readInner(depth);
-            } else if (token == TOO_LONG) {
-                refuse(FAULT_NUMBER);
-            } else if (token < TOO_LONG || within(token, FIRST_WORD, FIRST_WORD + VALUE_WORDS - 1)) {
-                countOne();
-                emit(token);
-                at++;
-            } else {
-                refuse(FAULT_PLACE);
-            }
-        }
-
-        private void readInner(int depth) {
-            if (depth >= MOST_DEEP) {
+            if (first == OPENED && depth >= MOST_DEEP) {
                 refuse(FAULT_DEEP);
                 return;
             }
-            countOne();
+            counted++;
+            if (counted > MOST_VALUES) {
+                refuse(FAULT_MANY);
+            }
             at++;
+            if (plain) {
+                emit(first);
+                return;
+            }
             readSum(depth + 1);
-            expect(CLOSED);
+            if (!accept(CLOSED)) {
+                refuse(FAULT_PLACE);
+            }
         }
     }
 
