@@ -5,6 +5,7 @@ public final class AccountsTest {
         FilesOpened x = new FilesOpened();
         due.is("at first", x.premium(31, 999), 0);
         due.is("what it was", x.premium(31, 0), 999);
+        due.is("act 0", x.premium(0, 0), 0);
         due.is("act -1", x.premium(-1, 0), -1);
         due.is("act 32", x.premium(32, 0), -1);
         due.is("coins -1", x.premium(31, -1), -1);

@@ -161,6 +161,8 @@ public final class EvidenceTest {
         due.is("not sure before", x.sure(0, 0), -1);
         due.is("no cover to be sure of", x.sure(2, 0), -1);
         due.is("no day to be sure on", x.sure(0, -1), -1);
+        due.is("behind the last day", x.sure(0, 4000), -1);
+        due.is("on the last day", x.sure(0, 3999), 2);
         x.person(-1);
         due.is("persons are as they are now", x.candidate(0, 0, -1), 3);
         due.is("not sure any more", x.sure(0, 1), -1);

@@ -99,7 +99,11 @@ public final class FindingsTest {
         due.is("ahead of the appeal", x.stands(0, 5), 1);
         x.finding(0, 1);
         x.appeal(1, false);
-        due.is("appeal not granted", x.stands(1, 100), 1);
+        due.is("appeal not granted", x.stands(1, 3999), 1);
+        x.sheet();
+        x.open(1);
+        x.report(1, 1, 0, 0, 0, 0, 0);
+        due.is("by its own cover's reports", x.stands(1, 100), 0);
     }
 
     private static void places() {

@@ -119,6 +119,9 @@ public final class LawsTest {
         check("read let if not", 15, 0);
         check("read let if and", 12, 0);
         check("read let if selfs=1", 12, 0);
+        check("turn dayz", 5, 0);
+        check("turn 1" + ";".repeat(394), 7, 0);
+        check("(".repeat(400), 0, 0);
         check("turn", 4, 0);
         check("turn -1", 5, 0);
         check("turn 1+", 7, 0);

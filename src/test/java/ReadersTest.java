@@ -130,6 +130,18 @@ public final class ReadersTest {
         x.ask(0, 0);
         word(x, "asked", 0, 0, 1);
         word(x, "reports+bills", 0, 0, 0);
+        int later = x.sheet();
+        x.line(later, 1, 1, 1);
+        x.clock(9);
+        Due.law(x, "read let if age=2; turn self+third+source+reports+bills; need 1 if age+lines+press+waits+asked=0");
+        due.is("age of a sheet that came later", x.may(0, later, 0), 0);
+        x.cover(0);
+        due.is("no words of the reader in need", x.need(0, 9), 1);
+        x.may(0, 0, 0);
+        due.is("no words of the line in turn", x.turn(0), 0);
+        FilesOpened y = house("");
+        y.ask(0, 0);
+        due.is("turn without a law", y.turn(0), 0);
     }
 
     private static void sources() {

@@ -7,6 +7,7 @@ public final class ScrapsTest {
         scraps();
         fits();
         laying();
+        sackBySack();
         shapes();
         judging();
         eight();
@@ -101,6 +102,33 @@ public final class ScrapsTest {
         due.is("column: way 0", x.laid(0, 0), 0);
         due.is("column: way 1", x.laid(1, 0), 1);
         due.is("column: way 1 ends", x.laid(1, 1), 0);
+    }
+
+    private static void sackBySack() {
+        FilesOpened x = new FilesOpened();
+        x.sack(1);
+        x.sack(1);
+        x.scrap(1, 0, Due.edges(0, 0, 0, 0));
+        x.scrap(0, 0, Due.edges(0, 0, 2, 0));
+        x.scrap(1, 0, Due.edges(3, 0, 0, 0));
+        x.scrap(0, 0, Due.edges(1, 0, 0, 0));
+        x.scrap(1, 0, Due.edges(0, 0, -3, 0));
+        x.scrap(0, 0, Due.edges(-2, 0, -1, 0));
+        due.is("its sack", x.scraps(0, 0), 1);
+        due.is("a column that fits", x.lay(0, 1, 3), 2);
+        due.is("one way", x.laid(0, -1), 1);
+        due.is("first", x.laid(0, 0), 1);
+        due.is("second", x.laid(0, 1), 5);
+        due.is("third", x.laid(0, 2), 3);
+        due.is("the other sack", x.lay(1, 1, 3), 1);
+        due.is("two ways", x.laid(0, -1), 2);
+        due.is("way 0", x.laid(0, 0), 0);
+        due.is("way 0 then", x.laid(0, 1), 4);
+        due.is("way 1", x.laid(1, 0), 4);
+        due.is("way 1 then", x.laid(1, 1), 2);
+        due.is("way 1 last", x.laid(1, 2), 0);
+        due.is("in a row nothing fits", x.lay(1, 3, 1), 0);
+        due.is("all ways", x.laid(0, -1), 6);
     }
 
     private static void shapes() {
