@@ -1847,7 +1847,7 @@ public final class FilesOpened {
         }
 
         long findBest(int n, long sacks) {
-            if (!within(n, 1, MOST_ORDERED) || !unpack(n, sacks) || askerCount == 0 || !needsWithin(n)) {
+            if (!within(n, 1, MOST_ORDERED) || !unpack(n, sacks) || !needsWithin(n)) {
                 return NONE;
             }
             measure(n);

@@ -787,7 +787,7 @@ final class Model {
     }
 
     long order(int n, long packed) {
-        if (!in(n, 1, 9) || askers.isEmpty()) {
+        if (!in(n, 1, 9)) {
             return -1;
         }
         List<Integer> list = new ArrayList<>();

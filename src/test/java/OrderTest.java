@@ -6,6 +6,7 @@ public final class OrderTest {
         askers();
         ordering();
         refusing();
+        withoutAskers();
         due.end();
     }
 
@@ -64,7 +65,6 @@ public final class OrderTest {
         FilesOpened x = new FilesOpened();
         x.sack(3);
         x.sack(4);
-        due.is("no askers", x.order(1, 0), -1);
         x.asker(1, 1);
         due.is("n 0", x.order(0, 0), -1);
         due.is("n -1", x.order(-1, 0), -1);
@@ -78,5 +78,32 @@ public final class OrderTest {
         due.is("the asker stays", x.count(15), 1);
         due.is("the order stays", x.ordered(0), 1);
         due.is("now", x.order(2, Due.packed(5, 1, 0)), 3);
+    }
+
+    /** The cost over nobody is 0, and all orders are alike; only what the call names can be refused. */
+    private static void withoutAskers() {
+        FilesOpened x = new FilesOpened();
+        due.is("no sacks", x.order(1, 0), -1);
+        x.sack(9);
+        x.sack(4);
+        x.sack(1);
+        due.is("n 0", x.order(0, 0), -1);
+        due.is("n 10", x.order(10, 0), -1);
+        due.is("no such sack", x.order(2, Due.packed(5, 1, 3)), -1);
+        due.is("one twice", x.order(2, Due.packed(5, 2, 2)), -1);
+        due.is("nothing ordered", x.ordered(0), -1);
+        due.is("one sack", x.order(1, 2), 0);
+        due.is("that sack", x.ordered(0), 2);
+        due.is("only one", x.ordered(1), -1);
+        due.is("three sacks", x.order(3, Due.packed(5, 2, 0, 1)), 0);
+        for (int k = 0; k < 3; k++) {
+            due.is("by numbers, " + k, x.ordered(k), k);
+        }
+        x.asker(1, 2);
+        due.is("an asker", x.order(2, Due.packed(5, 1, 0)), 8);
+        due.is("the askers are gone", x.order(2, Due.packed(5, 1, 0)), 0);
+        due.is("by numbers again", x.ordered(0), 0);
+        due.is("then sack 1", x.ordered(1), 1);
+        due.is("no asker came", x.count(15), 0);
     }
 }
