@@ -230,7 +230,7 @@ public final class EdgesLawsTest {
         fault(AT, "^;turn 5");
     }
 
-    /** 0 a byte or WORD that can't stand there: each byte alone, and in three places of a text. */
+    /** 0 a byte or WORD that can't stand there: each byte alone, and in four places of a text. */
     private static void bytes() {
         for (int b = 0; b < 256; b++) {
             boolean blank = b == ' ';
@@ -239,6 +239,8 @@ public final class EdgesLawsTest {
             byteIn("", b, "", blank ? Due.fault(1, AT) : Due.fault(0, AT));
             byteIn("turn ", b, "", digit ? 0 : blank || b == '(' ? Due.fault(6, AT) : Due.fault(5, AT));
             byteIn("turn 1", b, "", digit || blank ? 0 : joint || b == ';' ? Due.fault(7, AT) : Due.fault(6, AT));
+            byteIn("turn day", b, "", blank ? 0 : b >= 'a' && b <= 'z' ? Due.fault(5, AT)
+                : joint || b == ';' ? Due.fault(9, AT) : Due.fault(8, AT));
             byteIn("turn 1", b, "1", digit || joint ? 0 : blank || b == ';' ? Due.fault(7, AT) : Due.fault(6, AT));
         }
     }
@@ -458,6 +460,9 @@ public final class EdgesLawsTest {
         good(" ".repeat(394) + "turn 1");
         fault(AT, " ".repeat(394) + "turn ^+");
         fault(NUMBER, " ".repeat(390) + "turn ^12345");
+        fault(AT, " ".repeat(386) + "read let if 1<^");
+        fault(AT, " ".repeat(386) + "read let if 1>^");
+        fault(AT, " ".repeat(385) + "read let if 1<=^");
         fault(AT, " ".repeat(396) + "turn^");
         fault(AT, " ".repeat(393) + "turn 1;^");
         fault(AT, "turn 1" + " ".repeat(393) + "^?");

@@ -92,6 +92,14 @@ public final class EdgesOrderTest {
             }
             due.is("just as many", x.order(n, list(0, 1, 2, 3, 4, 5, 6, 7, 8)), n == 1 ? 2 : 3);
             due.is("they are gone", x.count(15), 0);
+            x.asker(1 << n - 1, 1);
+            x.asker(1, 1);
+            if (n > 1) {
+                due.is("one fewer than the first needs", x.order(n - 1, list(8, 7, 6, 5, 4, 3, 2, 1, 0)), NONE);
+                due.is("both wait", x.count(15), 2);
+                due.is("the order stays", x.ordered(0), 0);
+                due.is("its length stays", x.ordered(n), NONE);
+            }
         }
     }
 

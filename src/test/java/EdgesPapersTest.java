@@ -219,6 +219,14 @@ public final class EdgesPapersTest {
         due.is("of whom it tells is out, though he was there", x.out(0, 0, 0), 0);
         x.seen(2, 99, 10, 10);
         due.is("place 99", x.out(0, 2, 0), 0);
+        FilesOpened y = house(4, 1, 1);
+        y.open(0);
+        y.report(0, 0, 0, 0, 1, 10, 20);
+        for (int person = 1; person < 4; person++) {
+            y.seen(person, 2, 10, 10);
+            y.seen(person, 1, 10, 10);
+        }
+        due.is("three were at both", y.candidate(0, 0, NONE), 3);
     }
 
     /** 22: the first such REPORT (by numbers) is the one by which he is OUT. */
@@ -288,6 +296,12 @@ public final class EdgesPapersTest {
         due.is("two the day ahead", x.sure(1, 1), NONE);
         x.seen(2, 2, 10, 10);
         due.is("nobody", x.sure(1, 2), NONE);
+        due.is("on the last day", x.sure(1, 3999), NONE);
+        x.unsee(1);
+        due.is("2 on the last day", x.sure(1, 3999), 2);
+        due.is("behind the last day", x.sure(1, 4000), NONE);
+        due.is("the last int", x.sure(1, Integer.MAX_VALUE), NONE);
+        due.is("no cover", x.sure(2, 3999), NONE);
     }
 
     /** The sheet would leave so many of five: persons that are not told of were elsewhere. */

@@ -20,6 +20,7 @@ public final class EdgesReadersTest {
         whoAskedFirst();
         asHeMayWhileHeWaits();
         whatHeWasTold();
+        toldToSeveral();
         toldStays();
         theMostOfSeveral();
         wordsOfAllLines();
@@ -326,6 +327,27 @@ public final class EdgesReadersTest {
         y.ask(0, 0);
         due.is("called without a law", y.call(), 0);
         due.is("barred without a law", y.told(0, 0, 0), NONE);
+    }
+
+    /** What one is TOLD takes nothing from the others, whatever their numbers. */
+    private static void toldToSeveral() {
+        FilesOpened x = house(2, 1, 30);
+        x.line(0, 0, 7, 70);
+        x.line(0, 1, 8, 80);
+        x.line(0, 3, 9, 90);
+        x.open(0);
+        law(x, "read let if third=0; read black if third=1");
+        int[] asking = {29, 3, 17};
+        for (int reader : asking) {
+            x.ask(reader, 0);
+            due.is("called", x.call(), reader);
+        }
+        for (int reader = 0; reader < 30; reader++) {
+            boolean was = reader == 29 || reader == 3 || reader == 17;
+            due.is("let, reader " + reader, x.told(reader, 0, 0), was ? 70 : NONE);
+            due.is("black, reader " + reader, x.told(reader, 0, 1), was ? -10 : NONE);
+            due.is("barred, reader " + reader, x.told(reader, 0, 2), NONE);
+        }
     }
 
     /** What he was TOLD stays TOLD. */

@@ -18,7 +18,10 @@ public final class EdgesScrapsTest {
         noneTurned();
         looseOnesAlone();
         firstByScraps();
+        allWaysAlike();
         waysAsGood();
+        besideAndBelowAtOnce();
+        layingAfterLaying();
         refusedLayingStays();
         judgedRows();
         takenIfLoose();
@@ -102,6 +105,8 @@ public final class EdgesScrapsTest {
             x.scrap(0, row[1], Due.edges(-9, 0, 0, -9));
             due.is("hands " + row[0] + " and " + row[1] + " beside", x.fits(0, 1, 0), row[2]);
             due.is("hands " + row[0] + " and " + row[1] + " below", x.fits(0, 1, 1), row[2]);
+            due.is("hand " + row[0], x.scraps(0, 1), row[0]);
+            due.is("hand " + row[1], x.scraps(1, 1), row[1]);
         }
     }
 
@@ -217,6 +222,60 @@ public final class EdgesScrapsTest {
         ways(x, "row", 6, new int[] {1, 0, 2, 3}, new int[] {1, 0, 3, 2});
         due.is("column", x.lay(0, 1, 4), 2);
         ways(x, "column", 4, new int[] {0, 2, 1, 3}, new int[] {0, 3, 1, 2});
+    }
+
+    /** Where nothing fits, all ways are as good: the second one turns the last two scraps round. */
+    private static void allWaysAlike() {
+        FilesOpened x = sacks(1);
+        int many = 1;
+        for (int n = 1; n <= 8; n++) {
+            x.scrap(0, 0, 0);
+            many *= n;
+            int[] first = new int[n];
+            for (int k = 0; k < n; k++) {
+                first[k] = k;
+            }
+            int[] second = n == 1 ? new int[0] : first.clone();
+            if (n > 1) {
+                second[n - 2] = n - 1;
+                second[n - 1] = n - 2;
+            }
+            due.is(n + " in a row", x.lay(0, n, 1), 0);
+            ways(x, n + " in a row", many, first, second);
+        }
+    }
+
+    /** Each joint is a FIT of its own, also of a scrap that has one on its left and one above it. */
+    private static void besideAndBelowAtOnce() {
+        FilesOpened x = sacks(1);
+        x.scrap(0, 0, Due.edges(-2, 0, 0, -3));
+        x.scrap(0, 0, Due.edges(-4, 3, 0, 0));
+        x.scrap(0, 0, Due.edges(0, 0, 2, -1));
+        x.scrap(0, 0, Due.edges(0, 1, 4, 0));
+        due.is("four joints", x.lay(0, 2, 2), 4);
+        ways(x, "four joints", 1, new int[] {3, 2, 1, 0}, new int[0]);
+        x.scrap(0, 0, Due.edges(0, 0, 0, 0));
+        x.scrap(0, 0, Due.edges(0, 0, 0, 0));
+        due.is("of six, in three columns", x.lay(0, 3, 2), 4);
+        ways(x, "of six", 4, new int[] {3, 2, 4, 1, 0, 5}, new int[] {3, 2, 5, 1, 0, 4});
+    }
+
+    /** A laying has nothing of the one ahead of it. */
+    private static void layingAfterLaying() {
+        FilesOpened x = sacks(2);
+        x.scrap(0, 0, Due.edges(0, 1, 2, 0));
+        x.scrap(0, 0, Due.edges(-2, 0, 0, -1));
+        x.scrap(0, 0, 0);
+        x.scrap(0, 0, 0);
+        for (int i = 0; i < 4; i++) {
+            x.scrap(1, 0, Due.edges(0, 0, i == 3 ? 7 : 0, i == 2 ? -7 : 0));
+        }
+        int[][] shapes = {{4, 1}, {1, 4}, {2, 2}};
+        for (int[] shape : shapes) {
+            due.is("sack 0, " + shape[0] + " columns", x.lay(0, shape[0], shape[1]), 1);
+            due.is("sack 1, " + shape[0] + " columns", x.lay(1, shape[0], shape[1]), 0);
+            ways(x, "sack 1", 24, new int[] {4, 5, 6, 7}, new int[] {4, 5, 7, 6});
+        }
     }
 
     /** How many ways are as good: k NONE, whatever way is. */

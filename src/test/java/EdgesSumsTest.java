@@ -16,6 +16,7 @@ public final class EdgesSumsTest {
         signs();
         joinedFacts();
         wordsOfRead();
+        sourcesOfCovers();
         wordsOfTurn();
         wordsOfNeed();
         elsewhereNought();
@@ -113,6 +114,14 @@ public final class EdgesSumsTest {
             test("0-6" + names[i] + "0-5", want[i][0]);
             test("0-5" + names[i] + "0-5", want[i][1]);
             test("0-4" + names[i] + "0-5", want[i][2]);
+            for (int left = 4; left <= 6; left++) {
+                boolean is = want[i][left - 4];
+                String fact = left + names[i] + "5";
+                test("not " + fact, !is);
+                test(fact + " and 1=1", is);
+                test("1=2 or " + fact, is);
+                test("not [not " + fact + "] and not 1=2", is);
+            }
         }
     }
 
@@ -214,6 +223,39 @@ public final class EdgesSumsTest {
         own.reader(2, false);
         word(own, 3, "third", 2);
         word(own, 3, "source", 0);
+    }
+
+    /** How many of these are SURE of some COVER: of the first, of the last, of several. */
+    private static void sourcesOfCovers() {
+        FilesOpened x = new FilesOpened();
+        for (int i = 0; i < 3; i++) {
+            x.person(NONE);
+        }
+        for (int i = 0; i < 4; i++) {
+            x.cover(i);
+        }
+        x.sheet();
+        x.line(0, 7, 1, 0);
+        x.open(0);
+        x.reader(NONE, false);
+        word(x, 0, "source", 0);
+        int[] sureOf = {0, 1, 1, 2};
+        int[] want = {1, 2, 2, 3};
+        for (int cover = 0; cover < 4; cover++) {
+            for (int person = 0; person < 3; person++) {
+                if (person != sureOf[cover]) {
+                    x.report(0, cover, person, 0, 0, 0, 0);
+                }
+            }
+            word(x, 0, "source", want[cover]);
+        }
+        x.clock(1);
+        x.fall(0);
+        word(x, 0, "source", 2);
+        x.fall(2);
+        word(x, 0, "source", 2);
+        x.fall(4);
+        word(x, 0, "source", 1);
     }
 
     /** Of a SHEET (for which he waits), of a reader: in turn. */

@@ -1,9 +1,10 @@
 import java.util.Random;
 
-/** Runs of 512 calls, told by numbered seeds, on the class and on the model: each answer must be the same. */
+/** Runs of at most 512 calls, told by numbered seeds, on the class and on the model: each answer must be the same. */
 public final class RandomRunsTest {
-    private static final int RUNS = 400;
-    private static final int CALLS = 512;
+    private static final int RUNS = 1000;
+    /** A run ends so far ahead of its 512th call that the dearest step still goes into it. */
+    private static final int CALLS = 512 - 60;
     private static final int[] STRANGE = {Integer.MIN_VALUE, Integer.MAX_VALUE, -2, -1, 1 << 16, 10000, 4000, 400, 64};
 
     private final Random random;
@@ -13,6 +14,7 @@ public final class RandomRunsTest {
     private final String run;
     /** How many ways an old day, a place or a code can go: few, so that papers meet. */
     private final int few;
+    private int calls;
 
     private RandomRunsTest(long seed, Due due) {
         random = new Random(seed);
@@ -54,7 +56,7 @@ public final class RandomRunsTest {
         if (theme != 2 && few != 2) {
             setUp();
         }
-        for (int i = 0; i < CALLS; i++) {
+        while (calls < CALLS) {
             int kind = random.nextInt(10) < 7 ? theme : random.nextInt(6);
             switch (kind) {
                 case 0 -> scrapCall();
@@ -84,11 +86,12 @@ public final class RandomRunsTest {
     }
 
     private void is(String call, long got, long want) {
+        calls++;
         due.is(run + call, got, want);
     }
 
     private void is(String call, boolean got, boolean want) {
-        due.is(run + call, got ? 1 : 0, want ? 1 : 0);
+        is(call, got ? 1 : 0, want ? 1 : 0);
     }
 
     private void scrapCall() {
@@ -274,6 +277,7 @@ public final class RandomRunsTest {
         x.end(0);
         m.end(0);
         Due.write(x, text);
+        calls += 3 + (text.length() + 19) / 20;
         for (int i = 0; i < text.length(); i++) {
             m.tape += text.charAt(i);
         }

