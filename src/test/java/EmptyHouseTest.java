@@ -30,10 +30,7 @@ public final class EmptyHouseTest {
     /** The call answers so and leaves the object as new. */
     private static void idle(String name, Call call, long want) {
         is(name, call, want);
-        Map<String, List<Long>> got = Looks.at(call::of);
-        for (String look : NEW.keySet()) {
-            due.yes("new: " + name + " left " + look, got.get(look).equals(NEW.get(look)));
-        }
+        Looks.alike(due, "new: " + name, NEW, Looks.at(call::of));
     }
 
     private static long bit(boolean yes) {

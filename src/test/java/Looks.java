@@ -48,6 +48,13 @@ final class Looks {
         return all;
     }
 
+    /** Tells each look at which the call of that name has changed something. */
+    static void alike(Due due, String call, Map<String, List<Long>> before, Map<String, List<Long>> after) {
+        for (String look : before.keySet()) {
+            due.yes(call + " left " + look, after.get(look).equals(before.get(look)));
+        }
+    }
+
     private static void add(List<Long> seen, long answer) {
         seen.add(answer);
     }

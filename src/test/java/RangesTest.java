@@ -63,13 +63,10 @@ public final class RangesTest {
 
     private static void refuse(String name, Call call, int number, long refused) {
         answer(name, call, number, refused);
-        Map<String, List<Long>> got = Looks.at(x -> {
+        Looks.alike(due, name + " at " + number, UNTOUCHED, Looks.at(x -> {
             House.tell(x);
             call.of(x, number);
-        });
-        for (String look : UNTOUCHED.keySet()) {
-            due.yes(name + " refused " + number + " and left " + look, got.get(look).equals(UNTOUCHED.get(look)));
-        }
+        }));
     }
 
     private static void clockAndScraps() {

@@ -1,5 +1,3 @@
-import java.util.List;
-import java.util.Map;
 import java.util.function.Consumer;
 
 /** Calls that are refused for what stands in the house, and questions: nothing that can be seen has changed by them. */
@@ -33,14 +31,10 @@ public final class RefusedTest {
         FilesOpened x = new FilesOpened();
         story.accept(x);
         due.is(name, call.of(x), want);
-        Map<String, List<Long>> before = Looks.at(story);
-        Map<String, List<Long>> after = Looks.at(y -> {
+        Looks.alike(due, name, Looks.at(story), Looks.at(y -> {
             story.accept(y);
             call.of(y);
-        });
-        for (String look : before.keySet()) {
-            due.yes(name + " left " + look, after.get(look).equals(before.get(look)));
-        }
+        }));
     }
 
     private static void idle(String name, Call call, long want) {
