@@ -8,6 +8,9 @@ public final class EdgesLawsTest {
     private static final int THIRTEENTH = 4;
     private static final String[] WORDS = {"self", "third", "source", "age", "lines", "press", "waits", "asked",
         "reports", "bills", "day"};
+    private static final String VALUE = " 5 self third source age lines press waits asked reports bills day ";
+    private static final String SIGN = " < <= = >= > ";
+    private static final String ALL = VALUE + SIGN + "read need turn let black bar if or and not ; ( ) [ ] + - * 12345 x ? ";
     private static final Due due = new Due();
 
     private EdgesLawsTest() {
@@ -27,6 +30,7 @@ public final class EdgesLawsTest {
         blanks();
         numbers();
         words();
+        eachInItsPlace();
         facts();
         deep();
         many();
@@ -271,6 +275,7 @@ public final class EdgesLawsTest {
         fault(AT, " ^");
         fault(AT, " ".repeat(399) + "^");
         fault(AT, " ".repeat(400) + "^");
+        fault(AT, " ".repeat(399) + "^;");
         fault(AT, "turn 1 + ^");
         fault(AT, "turn 1 +      ^");
     }
@@ -315,12 +320,70 @@ public final class EdgesLawsTest {
             fault(AT, "turn " + word + "^1");
             fault(AT, "turn 1^" + word);
             fault(AT, "^" + word);
+            for (int i = 0; i < word.length(); i++) {
+                fault(AT, "turn ^" + word.substring(0, i) + "x" + word.substring(i + 1));
+            }
         }
         for (String word : new String[] {"read", "need", "turn", "let", "black", "bar", "if", "or", "and", "not"}) {
             fault(AT, "turn ^" + word);
             fault(AT, "turn 1+^" + word);
             fault(AT, "read let if 1=^" + word);
             fault(AT, "read let if (^" + word);
+        }
+    }
+
+    /** What may stand behind each piece of a text, and what makes a law of it; all else is a fault there. */
+    private static void eachInItsPlace() {
+        for (String ahead : new String[] {"", "turn 1;", "need 1 if 1=1 ; "}) {
+            behind(ahead, " read need turn ", "");
+        }
+        behind("read ", " let black bar ", "");
+        behind("read let ", " if ", "");
+        behind("read black ", " if ", "");
+        behind("read bar ", " if ", "");
+        behind("need ", " 5 ", "");
+        behind("need 5 ", " if ", "");
+        for (String ahead : new String[] {"turn ", "turn 1+", "turn 1-", "turn 1*", "read let if 1=", "need 1 if 2 = (1)*"}) {
+            behind(ahead, " ( ", VALUE);
+        }
+        behind("turn (", " ( " + VALUE, "");
+        behind("read let if 1=(", " ( " + VALUE, "");
+        for (String ahead : new String[] {"turn 1 ", "turn (1)", "turn day ", "turn (1)+2 ", "turn 1;turn 2 "}) {
+            behind(ahead, " + - * ; ", " end ");
+        }
+        for (String ahead : new String[] {"turn (1 ", "turn (2+(1)", "read let if 1=(1 "}) {
+            behind(ahead, " + - * ", " ) ");
+        }
+        behind("read let if (1 ", " + - * ) ", "");
+        for (String ahead : new String[] {"read let if ", "need 1 if ", "read let if not ", "read let if [",
+            "read let if 1=1 and ", "read let if 1=1 or ", "read let if [1=1] and ", "read let if not not "}) {
+            behind(ahead, " not [ ( " + VALUE, "");
+        }
+        for (String ahead : new String[] {"read let if 1 ", "need 1 if day ", "read let if (1)", "read let if [1 ",
+            "read let if 1=1 or 1 ", "read let if not 1 "}) {
+            behind(ahead, " + - * " + SIGN, "");
+        }
+        for (String ahead : new String[] {"read let if 1=1 ", "need 1 if not 1=1 ", "read let if 1=(1)",
+            "read let if 1=2 and 1=1 ", "read let if [1=1] or 1=1 "}) {
+            behind(ahead, " + - * and or ; ", " end ");
+        }
+        for (String ahead : new String[] {"read let if [1=1]", "read let if not [1=1]", "read let if 1=1 or [1=1]"}) {
+            behind(ahead, " and or ; ", " end ");
+        }
+        behind("read let if [1=1 ", " + - * and or ", " ] ");
+        behind("read let if [1=(1)", " + - * and or ", " ] ");
+        behind("read let if [[1=1]", " and or ", " ] ");
+    }
+
+    /** Both lists of tokens bear a blank on either side of each; those that make a law are named in the second alone. */
+    private static void behind(String ahead, String may, String laws) {
+        for (String token : (ALL.trim() + " end").split(" +")) {
+            String text = ahead + (token.equals("end") ? "" : token);
+            String sought = " " + token + " ";
+            boolean numberDue = token.equals("12345") && (may + laws).contains(" 5 ");
+            int want = laws.contains(sought) ? 0 : may.contains(sought) ? Due.fault(text.length(), AT)
+                : Due.fault(ahead.length(), numberDue ? NUMBER : AT);
+            due.is(text, Due.law(new FilesOpened(), text), want);
         }
     }
 

@@ -19,6 +19,7 @@ public final class EdgesScrapsTest {
         looseOnesAlone();
         firstByScraps();
         allWaysAlike();
+        allWaysFitAlike();
         waysAsGood();
         besideAndBelowAtOnce();
         layingAfterLaying();
@@ -245,6 +246,26 @@ public final class EdgesScrapsTest {
         }
     }
 
+    /** Where everything fits, all ways are as good, too: a FIT for each two that are beside one another. */
+    private static void allWaysFitAlike() {
+        FilesOpened x = sacks(1);
+        int many = 1;
+        for (int n = 1; n <= 8; n++) {
+            x.scrap(0, 0, Due.edges(-7, 9, 7, -9));
+            many *= n;
+            for (int columns = 1; columns <= n; columns++) {
+                int rows = n / columns;
+                if (columns * rows == n) {
+                    String shape = columns + " by " + rows;
+                    due.is(shape, x.lay(0, columns, rows), rows * (columns - 1) + columns * (rows - 1));
+                    due.is(shape + ": ways", x.laid(0, NONE), many);
+                    due.is(shape + ": first", x.laid(0, n - 1), n - 1);
+                    due.is(shape + ": second", x.laid(1, n - 1), n == 1 ? NONE : n - 2);
+                }
+            }
+        }
+    }
+
     /** Each joint is a FIT of its own, also of a scrap that has one on its left and one above it. */
     private static void besideAndBelowAtOnce() {
         FilesOpened x = sacks(1);
@@ -363,6 +384,11 @@ public final class EdgesScrapsTest {
         due.is("sheet 0 was made of", x.sheets(0, 3), 2);
         due.is("torn, it has none any more", x.tear(0), NONE);
         due.is("they are of sheet 1 alone", x.tear(1), 2);
+        FilesOpened y = sacks(1);
+        y.scrap(0, 0, 0);
+        y.lay(0, 1, 1);
+        due.is("one alone", y.take(0), 0);
+        due.is("one alone, not loose", y.take(0), NONE);
     }
 
     private static void takenSecondWay() {
